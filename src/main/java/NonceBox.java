@@ -402,10 +402,9 @@ public final class NonceBox {
             foldTop(to);
         }
 
-        /** Makes of x the one row that stands for its remainder. */
+        /** Makes of x, an answer of times, the one row that stands for its remainder. */
         void settle(long[] x) {
-            // Twice brings any answer into 0 .. 2^bits - 1.
-            foldTop(x);
+            // An answer has been folded once; a second time brings it into 0 .. 2^bits - 1.
             foldTop(x);
             // With low added, just a number from 2^bits - low on reaches the top and loses the modulus.
             x[0] += low;
