@@ -1,9 +1,10 @@
 import java.util.Random;
 
-/** Long runs of calls, the program beside the reference: each answer, each exception and all of the state. */
+/** Long runs of calls, the program beside the reference: each answer, each exception, and the state by many looks. */
 public final class RandomRunsTest {
-    private static final int RUNS = 60;
-    private static final int CALLS = 512;
+    private static final int RUNS = 320;
+    // A step is a call and four looks; with the look at the whole state (44 calls) it makes 509 of 512 calls.
+    private static final int STEPS = 93;
     private static final long[] EDGE_WORDS = {0, 1, 2, 9, -1, -2, -5, -19, -20, -18, Long.MAX_VALUE, Long.MIN_VALUE,
         0xffffffffL, 0x0ffffffc0fffffffL, 0x0ffffffc0ffffffcL};
     private static final int[] EDGE_PLACES = {-1, 3, 4, 13, 14, 1 << 29, Integer.MIN_VALUE, Integer.MAX_VALUE};
@@ -32,7 +33,7 @@ public final class RandomRunsTest {
     }
 
     private void run(int run) {
-        for (int i = 0; i < CALLS; i++) {
+        for (int i = 0; i < STEPS; i++) {
             call = planned.isEmpty() ? pick() : planned.split(" ")[0];
             planned = planned.isEmpty() ? "" : planned.substring(call.length()).trim();
             String got;
@@ -49,8 +50,9 @@ public final class RandomRunsTest {
                 due = answer(false, n);
             }
             check.that("run " + run + ", call " + i + ", " + call + ": got " + got + ", due is " + due, got.equals(due));
-            check.that("run " + run + ", call " + i + ", " + call + ": the state", sameState());
+            check.that("run " + run + ", call " + i + ", " + call + ": the state", looksTheSame());
         }
+        check.that("run " + run + ": the state in the end", sameState());
     }
 
     private String pick() {
@@ -120,6 +122,15 @@ public final class RandomRunsTest {
             case "box": return "" + reference.box();
             default: return "" + reference.unbox();
         }
+    }
+
+    private boolean looksTheSame() {
+        int buffer = random.nextInt(4);
+        int place = random.nextInt(Boxes.ROOMS[buffer] / 8);
+        int outPlace = random.nextInt(Math.min(14, reference.outLength / 8 + 2));
+        return program.size(3) == reference.size(3) && program.size(4) == reference.size(4)
+                && program.word(4, outPlace) == reference.word(4, outPlace)
+                && program.word(buffer, place) == reference.word(buffer, place);
     }
 
     private boolean sameState() {

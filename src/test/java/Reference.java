@@ -131,7 +131,7 @@ final class Reference {
     }
 
     private int[] agreed() {
-        return mixOf(multipleOf(buffers[0], buffers[2]), new int[16]);
+        return agreedOf(buffers[0], buffers[2]);
     }
 
     static BigInteger number(int[] bytes) {
@@ -251,14 +251,25 @@ final class Reference {
         return x.multiply(y).mod(P);
     }
 
+    static int[] agreedOf(int[] key, int[] point) {
+        return mixOf(multipleOf(key, point), new int[16]);
+    }
+
     static int[] multipleOf(int[] key, int[] point) {
-        BigInteger n = number(key).clearBit(0).clearBit(1).clearBit(2).clearBit(255).setBit(254);
-        BigInteger u = number(point).clearBit(255).mod(P);
+        return bytesOf(ladder(numberOfKey(key), number(point).clearBit(255).mod(P)), 32);
+    }
+
+    static BigInteger numberOfKey(int[] key) {
+        return number(key).clearBit(0).clearBit(1).clearBit(2).clearBit(255).setBit(254);
+    }
+
+    /** The steps of MULTIPLE, for any n below 2^255. */
+    static BigInteger ladder(BigInteger n, BigInteger u) {
         BigInteger[] v = {BigInteger.ONE, BigInteger.ZERO, u, BigInteger.ONE};
         for (int bit = 254; bit >= 0; bit--) {
             v = n.testBit(bit) ? changed(stepped(changed(v), u)) : stepped(v, u);
         }
-        return bytesOf(product(v[0], v[1].modPow(P.subtract(TWO), P)), 32);
+        return product(v[0], v[1].modPow(P.subtract(TWO), P));
     }
 
     private static BigInteger[] changed(BigInteger[] v) {

@@ -26,7 +26,7 @@ public final class RoomTest {
 
     private static void run(NonceBox box) {
         box.length(96);
-        for (int i = 0; i < CALLS / 8; i++) {
+        for (int i = 0; i < CALLS / 8 - 1; i++) {
             box.put(2, 0, 9 + i);
             box.box();
             box.move(3);
